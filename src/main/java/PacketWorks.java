@@ -235,7 +235,10 @@ public final class PacketWorks {
                 default: declares = false;
             }
         }
-        reader.control();
+        reader.openControl();
+        for (int i = 0; i <= TAPE_ROOM && reader.openBlocks > 0; i++) {
+            reader.inBlock();
+        }
         reader.emit();
         reader.close();
         standing = true;
@@ -512,8 +515,11 @@ public final class PacketWorks {
             throw new IllegalArgumentException("the text has a fault");
         }
 
+        /** The word at hand can't stand there. */
         void refuse() {
-            fail(CANNOT_STAND, wordAt);
+            faultKind = overfull ? ONE_TOO_MANY : CANNOT_STAND;
+            faultAt = wordAt;
+            throw new IllegalArgumentException("a word that can't stand there");
         }
 
         void advance() {
@@ -593,12 +599,12 @@ public final class PacketWorks {
         }
 
         private int scanSign(int first) {
-            if (SIGNS.indexOf(first) < 0) {
+            if (SIGNS.indexOf((char) first) < 0) {
                 return NONE;
             }
             int second = at + 1 < length ? bytes[at + 1] & 255 : 0;
-            boolean twice = second == first && TWICE_SIGNS.indexOf(first) >= 0;
-            boolean two = twice || second == '=' && EQUAL_SIGNS.indexOf(first) >= 0;
+            boolean twice = second == first && TWICE_SIGNS.indexOf((char) first) >= 0;
+            boolean two = twice || second == '=' && EQUAL_SIGNS.indexOf((char) first) >= 0;
             at += two ? 2 : 1;
             return two ? first * 256 + second : first;
         }
@@ -1382,13 +1388,10 @@ public final class PacketWorks {
             return operand[0];
         }
 
-        /** As whole(), with a look at the width. */
-        int fitting(int inAction, int width) {
-            int root = whole(inAction);
+        void mustFit(int root, int width) {
             if (!nodes.fits(root, width)) {
                 text.fail(BAD_WIDTH, nodes.place[root]);
             }
-            return root;
         }
 
         private void prefixes() {
@@ -1459,7 +1462,11 @@ public final class PacketWorks {
                 text.advance();
                 return META_SLOTS + meta;
             }
-            int instance = text.known(INSTANCE);
+            int instance = text.indexOf(INSTANCE);
+            if (instance == NONE) {
+                text.fail(NOT_THERE, text.wordAt);
+            }
+            text.advance();
             if (text.word != '.') {
                 text.refuse();
             }
@@ -1493,33 +1500,28 @@ public final class PacketWorks {
         private void suffixes() {
             for (int i = 0; i <= TAPE_ROOM && (text.word == '[' || text.word == AS); i++) {
                 int of = operand[operands - 1];
-                int place = nodes.place[of];
-                boolean slice = text.word == '[';
+                boolean cut = text.word == AS;
                 text.advance();
-                if (slice) {
-                    slice(of, place);
-                } else {
+                if (cut) {
                     int width = text.within(1, WIDEST);
                     operands--;
-                    add(CUT, of, 0, width, place);
+                    add(CUT, of, 0, width, nodes.place[of]);
+                    continue;
                 }
+                int highAt = text.wordAt;
+                long high = text.number;
+                text.expect(NUMBER);
+                text.expect(':');
+                long low = text.number;
+                text.expect(NUMBER);
+                boolean inside = high >= 0 && high < nodes.width[of] && low >= 0 && low <= high;
+                if (!inside) {
+                    text.fail(BAD_WIDTH, highAt);
+                }
+                text.expect(']');
+                operands--;
+                add(SLICE, of, (int) low, (int) (high - low) + 1, nodes.place[of]);
             }
-        }
-
-        private void slice(int of, int place) {
-            int highAt = text.wordAt;
-            long high = text.number;
-            text.expect(NUMBER);
-            text.expect(':');
-            long low = text.number;
-            text.expect(NUMBER);
-            boolean inside = high >= 0 && high < nodes.width[of];
-            if (!inside || low < 0 || low > high) {
-                text.fail(BAD_WIDTH, highAt);
-            }
-            text.expect(']');
-            operands--;
-            add(SLICE, of, (int) low, (int) (high - low) + 1, place);
         }
 
         /** Closes what ends at the word at hand, and reads that word if it belongs to the EXPR. */
@@ -1668,6 +1670,7 @@ public final class PacketWorks {
         /** The if of each block that stands open, and whether it is the first or the second one. */
         final int[] blockIf = new int[BLOCKS + 1];
         final int[] blockBranch = new int[BLOCKS + 1];
+        int openBlocks;
 
         Reader(Text words, Program parts) {
             text = words;
@@ -1908,17 +1911,22 @@ public final class PacketWorks {
             if (kind == PUT || kind == LOAD) {
                 actions.deedSlot[deed] = writtenSlot();
             }
-            if (kind == LOAD || kind == STORE) {
-                arrayPlace(deed, action);
-            }
             if (kind == PUT) {
                 text.expect('=');
             }
+            if (kind == LOAD || kind == STORE) {
+                arrayOf(deed);
+                text.expect('[');
+                actions.indexFirst[deed] = program.nodes.made;
+                actions.indexRoot[deed] = formulas.whole(action);
+                text.expect(']');
+            }
             if (kind == PUT || kind == STORE) {
-                boolean put = kind == PUT;
-                int width = put ? program.slotWidth(actions.deedSlot[deed]) : program.arrayWidth[actions.deedArray[deed]];
+                int array = actions.deedArray[deed];
+                int width = kind == STORE ? program.arrayWidth[array] : program.slotWidth(actions.deedSlot[deed]);
                 actions.valueFirst[deed] = program.nodes.made;
-                actions.valueRoot[deed] = formulas.fitting(action, width);
+                actions.valueRoot[deed] = formulas.whole(action);
+                formulas.mustFit(actions.valueRoot[deed], width);
             }
             if (kind == ADD || kind == TAKE) {
                 actions.deedSlot[deed] = text.known(INSTANCE) * INSTANCE_SLOTS;
@@ -1941,8 +1949,8 @@ public final class PacketWorks {
             return formulas.placeSlot();
         }
 
-        /** Reads an array's name and index, and looks whether what is loaded fits. */
-        private void arrayPlace(int deed, int action) {
+        /** Reads an array's name, and looks whether what is loaded fits. */
+        private void arrayOf(int deed) {
             int place = text.wordAt;
             int array = text.known(ARRAY);
             actions.deedArray[deed] = array;
@@ -1950,10 +1958,6 @@ public final class PacketWorks {
             if (slot != NONE && program.slotWidth(slot) != program.arrayWidth[array]) {
                 text.fail(BAD_WIDTH, place);
             }
-            text.expect('[');
-            actions.indexFirst[deed] = program.nodes.made;
-            actions.indexRoot[deed] = formulas.whole(action);
-            text.expect(']');
         }
 
         void table() {
@@ -2062,35 +2066,22 @@ public final class PacketWorks {
             text.expect(';');
         }
 
-        void control() {
+        void openControl() {
             text.expect(CONTROL);
             text.expect('{');
             blockIf[1] = NONE;
             blockBranch[1] = NONE;
-            int open = 1;
-            for (int i = 0; i <= TAPE_ROOM && open > 0; i++) {
-                if (text.word == '}') {
-                    open = closeBlock(open);
-                } else {
-                    open = controlStep(open);
-                }
-            }
+            openBlocks = 1;
         }
 
-        private int closeBlock(int open) {
-            text.advance();
-            if (blockBranch[open] != 1 || text.word != ELSE) {
-                return open - 1;
-            }
-            text.advance();
-            text.expect('{');
-            blockBranch[open] = 0;
-            return open;
-        }
-
-        private int controlStep(int open) {
+        /** Reads what comes next in the block that stands open: a step of it or its end. */
+        void inBlock() {
             boolean isIf = text.word == IF;
             boolean isApply = text.word == APPLY;
+            if (text.word == '}') {
+                closeBlock();
+                return;
+            }
             if (!isIf && !isApply && !isStatement()) {
                 text.refuse();
             }
@@ -2098,29 +2089,40 @@ public final class PacketWorks {
                 text.fail(ONE_TOO_MANY, text.wordAt);
             }
             int kind = isIf ? IF_STEP : isApply ? APPLY_STEP : STATEMENT_STEP;
-            int step = steps.add(kind, blockIf[open], blockBranch[open]);
+            int step = steps.add(kind, blockIf[openBlocks], blockBranch[openBlocks]);
             if (isIf) {
-                return openIf(step, open);
-            }
-            if (isApply) {
+                openIf(step);
+            } else if (isApply) {
                 apply(step);
             } else {
                 steps.deed[step] = statement(NONE);
             }
-            return open;
         }
 
-        private int openIf(int step, int open) {
+        private void closeBlock() {
+            text.advance();
+            if (blockBranch[openBlocks] != 1 || text.word != ELSE) {
+                openBlocks--;
+                return;
+            }
+            text.advance();
+            text.expect('{');
+            blockBranch[openBlocks] = 0;
+        }
+
+        private void openIf(int step) {
             text.advance();
             steps.first[step] = program.nodes.made;
-            steps.root[step] = formulas.fitting(NONE, 1);
-            if (text.word == '{' && open >= BLOCKS) {
+            int root = formulas.whole(NONE);
+            steps.root[step] = root;
+            formulas.mustFit(root, 1);
+            if (text.word == '{' && openBlocks >= BLOCKS) {
                 text.fail(ONE_TOO_MANY, text.wordAt);
             }
             text.expect('{');
-            blockIf[open + 1] = step;
-            blockBranch[open + 1] = 1;
-            return open + 1;
+            openBlocks++;
+            blockIf[openBlocks] = step;
+            blockBranch[openBlocks] = 1;
         }
 
         private void apply(int step) {
@@ -2327,7 +2329,7 @@ public final class PacketWorks {
                 case PUT: put(slot, value); break;
                 case LOAD: put(slot, words[at]); break;
                 case STORE: words[at] = value; break;
-                case TAKE: Arrays.fill(slots, slot, slot + INSTANCE_SLOTS, 0); break;
+                case TAKE: takeAway(slot); break;
                 default: slots[slot] = 1;
             }
         }
@@ -2336,6 +2338,12 @@ public final class PacketWorks {
         private void put(int slot, long value) {
             if (slot >= META_SLOTS || slots[slot - slot % INSTANCE_SLOTS] != 0) {
                 slots[slot] = value;
+            }
+        }
+
+        private void takeAway(int validitySlot) {
+            for (int i = 0; i < INSTANCE_SLOTS; i++) {
+                slots[validitySlot + i] = 0;
             }
         }
 
@@ -2364,7 +2372,9 @@ public final class PacketWorks {
             }
             System.arraycopy(bytes, extracted, bytes, many, length - extracted);
             length = many + length - extracted;
-            Arrays.fill(bytes, 0, many, (byte) 0);
+            for (int i = 0; i < many; i++) {
+                bytes[i] = 0;
+            }
             int bit = 0;
             for (int i = 0; i < program.emits; i++) {
                 bit = write(program, program.emitted[i], bit);
