@@ -133,6 +133,13 @@ public final class EntryTest {
         x.key(0, 0xf7, -1);
         Works.due("all ones: there already", entry(x, COME, 0, 1), 1);
         Works.due("entries", x.entries(0, 0), 4);
+        PacketWorks longestFirst = table("key x.a : prefix;", "4");
+        put(longestFirst, 0xf0, 0xf0, 0, 3);
+        put(longestFirst, 0xc0, 0xc0, 9, 2);
+        put(longestFirst, 0, 0, 9, 1);
+        Works.due("more ones are ahead of priority", port(longestFirst, 0xf0, 0), 3);
+        Works.due("2 ones", port(longestFirst, 0xc0, 0), 2);
+        Works.due("0 ones", port(longestFirst, 0x40, 0), 1);
     }
 
     private static void maskedKeys() {
@@ -147,6 +154,7 @@ public final class EntryTest {
         Works.due("a greater priority", port(x, 0x07, 0), 3);
         Works.due("the greatest", port(x, 0x0f, 0), 5);
         Works.due("below 0", port(x, 0x10, 0), 4);
+        x.key(0, 0x10, 0x10);
         Works.due("no room", entry(x, COME, 0, 1), 1);
         x.key(0, 0x101, 0x01);
         Works.due("values alike where the mask has ones", entry(x, GO, 0, 0), 0);
@@ -204,11 +212,35 @@ public final class EntryTest {
             Works.due("come", entry(x, COME, 0, 1), 0);
             Works.due("above", x.entries(0, 1), above);
         }
+        manyBuckets();
         PacketWorks wide = table("key x.a ++ 0x12345678 as 32 ++ 0x9abcde as 24 : exact;", "16 ways 1 stash 8");
         long v = 0xfe12345678_9abcdeL;
         wide.key(0, v, -1);
         Works.due("come", entry(wide, COME, 0, 1), 0);
         Works.due("match with 64 bits", port(wide, 0xfe, 0), 222);
+    }
+
+    private static void manyBuckets() {
+        PacketWorks x = Works.laid(HEAD + "meta q : 64; table t { key q : exact; key q << 1 : exact; key length : exact;"
+                + " actions two; default two (); room 16 ways 1 stash 8; } control { apply t; } emit x;");
+        int[] filled = new int[16];
+        int above = 0;
+        long value = 0x123456789abcdef1L;
+        for (int i = 0; i < 100; i++) {
+            value = value * 6364136223846793005L + 1442695040888963407L;
+            long[] keys = {value, ~value >>> i % 64, value & 0xffff};
+            long hash = 0;
+            for (int k = 0; k < 3; k++) {
+                x.key(k, k == 2 ? value : keys[k], -1);
+                hash = 31 * hash + (keys[k] ^ keys[k] >>> 32 ^ keys[k] >>> 17);
+            }
+            int bucket = (int) Long.remainderUnsigned(hash ^ hash >>> 20 ^ hash >>> 7, 16);
+            boolean full = filled[bucket] >= 1 && above >= 8;
+            Works.due("come", entry(x, COME, 0, 1), full ? 1 : 0);
+            above += !full && filled[bucket] >= 1 ? 1 : 0;
+            filled[bucket] += full ? 0 : 1;
+            Works.due("above", x.entries(0, 1), above);
+        }
     }
 
     private static void rooms() {
@@ -224,6 +256,7 @@ public final class EntryTest {
         Works.due("what is above goes with any of its bucket", x.entries(0, 1), 0);
         x.key(0, 3, -1);
         Works.due("come", entry(x, COME, 0, 1), 0);
+        fourKeys();
         PacketWorks none = table("key x.a : exact;", "2 ways 1 stash 0");
         int came = 0;
         for (int i = 0; i < 6; i++) {
@@ -232,6 +265,34 @@ public final class EntryTest {
         }
         Works.due("one in each bucket", came, 2);
         Works.due("above", none.entries(0, 1), 0);
+    }
+
+    /** What is behind one that goes moves up with all that it has. */
+    private static void fourKeys() {
+        PacketWorks x = table("key x.a : masked; key x.b : masked; key x.a ^ x.b : masked; key in_port : masked;", "9");
+        for (int i = 0; i < 4; i++) {
+            x.key(0, i, 255);
+            x.key(1, i + 1, 255);
+            x.key(2, i ^ i + 1, 255);
+            x.key(3, i, i);
+            x.datum(0, i + 5);
+            x.datum(1, i);
+            Works.due("come", entry(x, COME, i, i == 2 ? 1 : 0), 0);
+        }
+        x.key(0, 1, 255);
+        x.key(1, 2, 255);
+        x.key(2, 3, 255);
+        x.key(3, 1, 1);
+        Works.due("go", entry(x, GO, 0, 0), 0);
+        Works.due("entries", x.entries(0, 0), 3);
+        int[] want = {5, 333, 333, 333};
+        for (int i = 0; i < 4; i++) {
+            Works.due("by port 0, " + i, port(x, i, i + 1), want[i]);
+            int n = Works.send(x, 3, i, i + 1);
+            x.run(3);
+            Works.due("by port 3, " + i, x.out(n, 2), i == 1 ? 333 : i == 2 ? 222 : i + 5);
+            Works.due("its second datum", x.byteAt(n, 1), i == 1 || i == 2 ? i + 1 : i);
+        }
     }
 
     private static void entriesAnswers() {

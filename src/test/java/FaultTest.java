@@ -159,6 +159,9 @@ public final class FaultTest {
         fault(3, "header @accept { a : 8; }");
         fault(3, "header h { a : 8; b : 8; @a : 8; }");
         fault(3, "meta @length : 8;");
+        fault(3, "meta abcdefgh_1 : 8; meta abcdefgh_2 : 8; meta @abcdefgh_1 : 8;");
+        fault(3, "header h { abcdefgh_1 : 8; abcdefgh_2 : 8; @abcdefgh_2 : 8; }");
+        fault(3, "action f (abcdefgh_1 : 8, abcdefgh_2 : 8, @abcdefgh_1 : 8) { }");
         fault(3, HEAD + "use @x : h;");
         fault(3, HEAD + "use @h : h;");
         fault(3, HEAD + "array @m : 8 [1];");
@@ -210,6 +213,12 @@ public final class FaultTest {
         inControl(4, "m = " + Works.times(23, "~") + "@-m; }");
         inControl(4, "m = " + Works.times(23, "(") + "@-m" + Works.times(23, ")") + "; }");
         inControl(4, "m = " + Works.times(24, "o ? m : ") + "@m; }");
+        inControl(4, "m = " + Works.times(24, "(") + "@5" + Works.times(24, ")") + "; }");
+        inControl(4, "o = " + Works.times(24, "(") + "@valid x" + Works.times(24, ")") + "; }");
+        inControl(4, "o = " + Works.times(24, "(") + "@!o" + Works.times(24, ")") + "; }");
+        inControl(4, "o = " + Works.times(24, "(") + "@-o" + Works.times(24, ")") + "; }");
+        inControl(4, "o = " + Works.times(24, "(") + "@~o" + Works.times(24, ")") + "; }");
+        inControl(1, "o = " + Works.times(24, "(") + "@" + Works.times(24, ")") + "; }");
         inControl(4, "m = " + Works.times(12, "~(") + "@m" + Works.times(12, ")") + "; }");
         inControl(4, "q = 1" + Works.times(400, "+1") + "@; }");
         inControl(4, "q = 1" + Works.times(400, "+1") + "@+1; }");
@@ -273,6 +282,9 @@ public final class FaultTest {
         inControl(6, "apply @x; }");
         inControl(6, "} emit @h;");
         inControl(6, "} emit x, @z;");
+        inAction(6, "} control { m = @p; }");
+        inAction(6, "} action b (z : 8) { m = @p; }");
+        inAction(6, "} table t { key @p : exact;");
         inAction(6, "@p = 1; }");
         inAction(6, "m = @p2; }");
     }
@@ -370,6 +382,8 @@ public final class FaultTest {
         fault(8, HEAD + "state s { goto u; } state t { extract x; goto s; } state @u { select m { 1 : accept;"
                 + " 2 : v; default : t; } } state v { goto u; }" + rest);
         fault(8, HEAD + "state s { select m { 0 : b; default : a; } } state @a { goto b; } state b { goto a; }" + rest);
+        fault(8, HEAD + "state @s { select m { 0 : s; default : accept; } }" + rest);
+        fault(8, HEAD + "state @s { select m { 0 : accept; 1 : reject; 2 : s; default : accept; } }" + rest);
         fault(1, HEAD + "state s { goto t; }" + rest + " @x");
         PacketWorks x = new PacketWorks();
         Works.put(x, HEAD + "state s { extract x; goto t; } state t { goto s; } state u { extract y; goto u; }" + rest);

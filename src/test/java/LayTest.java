@@ -104,6 +104,9 @@ public final class LayTest {
         stages("o = valid x; x.a = 1;", 0, 0);
         stages("add x; y.a = 1; add y;", 0, 0, 1);
         stages("drop; drop; m = 1;", 0, 1, 0);
+        String wide = "header w { " + Works.times(16, "f# : 8; ") + "} use z : w; ";
+        stages(wide, "m = z.f15; take z; n = z.f0;", 0, 0, 1);
+        stages(wide, "z.f15 = 1; add z; z.f7 = 2; o = valid z;", 0, 1, 2, 2);
         stages("load x.a r [0]; take x;", 0, 1);
         stages("store r [x.a] 1; take x;", 0, 0);
     }

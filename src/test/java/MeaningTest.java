@@ -49,6 +49,12 @@ public final class MeaningTest {
         value("x.d < 1", 1, 0);
         value("x.d >= x.d", 1, 1);
         value("x.d <= x.d - 1", 1, 0);
+        value("x.d <= x.d", 1, 1);
+        value("x.d > x.d", 1, 0);
+        value("x.d < x.d", 1, 0);
+        value("x.a >= 0xf2", 1, 0);
+        value("x.a <= 0xf2", 1, 1);
+        value("x.a > 0xf0", 1, 1);
         value("0x8000000000000000 > 0x7fffffffffffffff", 1, 1);
         value("0x8000000000000000 <= 0x7fffffffffffffff", 1, 0);
         value("x.a == 0xf1", 1, 1);
@@ -68,6 +74,8 @@ public final class MeaningTest {
     private static void shifts() {
         value("x.a << 4", 8, 0x10);
         value("x.a >> 4", 8, 0x0f);
+        value("x.a << 0", 8, 0xf1);
+        value("x.a >> 0", 8, 0xf1);
         value("x.a << 8", 8, 0);
         value("x.a >> 8", 8, 0);
         value("x.a >> x.c", 8, 7);

@@ -9,6 +9,7 @@ public final class PipeTest {
         whatGoesOut();
         whatStepsDid();
         theLatest64();
+        kindsByTurns();
         entriesOnTheWay();
         tablesWithoutApply();
         arraysInOneStage();
@@ -99,6 +100,11 @@ public final class PipeTest {
             Works.due("a byte", x.byteAt(n, 0), -1);
             Works.due("a step", x.did(n, 0), -1);
         }
+        PacketWorks several = Works.laid(HEAD + "use z : h; state s { goto t; } state t { extract y; extract z; extract x;"
+                + " goto accept; } control { } emit x, y, z;");
+        int three = Works.send(several, 0, 1, 2, 3, 4, 5);
+        several.run(2);
+        Works.dueBytes("several extracts in their order", several, three, "0401020305");
         PacketWorks plain = Works.laid(HEAD + "control { if valid x { drop; } } emit x;");
         int n = Works.send(plain, 0, 1, 2, 3);
         plain.run(9);
@@ -175,6 +181,25 @@ public final class PipeTest {
                 }
             }
         }
+    }
+
+    /** Operations of both kinds come by turns, so that each kind takes the place that another one had long before. */
+    private static void kindsByTurns() {
+        PacketWorks x = Works.laid(HEAD + "action no () { } table t { key m : exact; actions no; default no ();"
+                + " room 1 ways 1 stash 0; } table u { key m : exact; actions no; default no (); room 16 ways 4 stash 8; }"
+                + " control { apply u; } emit x;");
+        for (int i = 0; i < 400; i++) {
+            boolean packet = i % 7 < 3;
+            x.key(0, i, -1);
+            int n = packet ? Works.send(x, 0, i) : x.entry(0, i % 2, 0, 0);
+            x.run(2);
+            Works.due("number", n, i);
+            Works.due("out(" + n + ", 0)", x.out(n, 0), packet ? 0 : 1);
+            Works.due("byteAt(" + n + ", 0)", x.byteAt(n, 0), packet ? i & 255 : -1);
+            Works.due("did(" + n + ", 0)", x.did(n, 0), packet ? 0 : -1);
+        }
+        Works.due("entries(0, 0)", x.entries(0, 0), 1);
+        Works.due("entries of the other table", x.entries(1, 0) > 20 ? 1 : 0, 1);
     }
 
     private static void entriesOnTheWay() {

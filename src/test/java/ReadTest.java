@@ -79,6 +79,10 @@ public final class ReadTest {
         Works.put(x, SMALL + "array r : 8 [2]; action a () { } table t { key length : exact; actions a;"
                 + " default a (); room 1 ways 1 stash 0; } control { apply t; } emit x;");
         Works.due("read()", x.read(), 1);
+        int[] sizes = {1, 1, 3, 1, 0, 1, 1, 1, 24};
+        for (int what = 0; what < sizes.length; what++) {
+            Works.due("size(" + what + ") behind read()", x.size(what), sizes[what]);
+        }
         for (int what = 0; what <= 5; what++) {
             Works.due("count(" + what + ") behind read()", x.count(what), 0);
         }
@@ -116,6 +120,14 @@ public final class ReadTest {
         Works.dueThrow("read()", IllegalArgumentException.class, x::read);
         Works.due("the tape is empty behind it", x.end(0), 0);
         Works.due("fault(1)", x.fault(1), 17);
+        Works.put(x, SMALL + "meta q : 64; control { q = 1" + Works.times(400, "+1") + "; } emit x;");
+        Works.dueThrow("read() of too many nodes", IllegalArgumentException.class, x::read);
+        Works.put(x, SMALL + "meta abcdefghijklmnop : 8; control { header");
+        Works.dueThrow("read()", IllegalArgumentException.class, x::read);
+        Works.put(x, "meta abcdefghijklmnop");
+        Works.dueThrow("read()", IllegalArgumentException.class, x::read);
+        Works.put(x, SMALL + "state s { goto accept; } control { if in_port == length { } } emit x;");
+        Works.due("read()", x.read(), 3);
         Works.put(x, SMALL + "control { } emit x;");
         Works.due("read()", x.read(), 0);
         Works.due("fault(0)", x.fault(0), 0);

@@ -1,0 +1,89 @@
+/** Promise 4: behind read() all is as with a new object, whatever the program before was. */
+public final class AgainTest {
+    private static final String[] PROGRAMS = {
+        "header h { a : 8; } use x : h; control { } emit x;",
+        "header h { a : 8; b : 8; } use x : h; use y : h; meta m : 8; array r : 8 [4];"
+            + " state s { extract x; select x.a { 1 : t; 2 & 3 : u; default : accept; } } state t { extract y; goto u; }"
+            + " state u { goto accept; } action f (p : 8, q : 16) { m = p; out_port = q; load x.b r [m]; store r [m] x.a; }"
+            + " action g () { drop; } table t1 { key x.a : exact; key valid y : exact; actions f, g; default g ();"
+            + " room 2 ways 1 stash 2; } table t2 { key x.b : prefix; actions f; default f (3, 9); room 3; }"
+            + " control { if valid y { apply t1; } else { apply t2; if m == 3 { add y; y.a = m; } } } emit y, x;",
+        "header h { abcdefghijk : 16; } header g { a : 64; } use p : h; meta q : 64; array s : 64 [2];"
+            + " state only { extract p; goto accept; } action f () { store s [1] q; } action g (p : 1) { drop; }"
+            + " table t { key p.abcdefghijk : masked; actions f; default f (); room 2; }"
+            + " control { q = p.abcdefghijk as 64; apply t; if q > 0x100 { take p; } } emit p;",
+        "header h { a : 8; } use x : h; state a { select length { 3 : b; 4 : c; default : reject; } }"
+            + " state b { extract x; goto c; } state c { goto accept; } control { out_port = x.a as 16 + 1; drop; } emit x;",
+        "header h { a : 8 } use",
+        "header h { a : 8; } use x : h; meta q : 64; control { q = q + q + q + q"
+    };
+
+    public static void main(String[] args) {
+        for (int before = 0; before < PROGRAMS.length; before++) {
+            for (int now = 0; now < PROGRAMS.length; now++) {
+                PacketWorks used = new PacketWorks();
+                answers(used, PROGRAMS[before]);
+                String got = answers(used, PROGRAMS[now]);
+                String want = answers(new PacketWorks(), PROGRAMS[now]);
+                Works.due("program " + now + " behind " + before, got.equals(want) ? 1 : 0, 1);
+            }
+        }
+        homelessIsForgotten();
+        Works.done();
+    }
+
+    private static void homelessIsForgotten() {
+        PacketWorks x = Works.with("header h { a : 8; } use x : h; control { drop; drop; } emit x;");
+        Works.dueThrow("lay", IndexOutOfBoundsException.class, () -> x.lay(1, 0, 0));
+        Works.due("homeless()", x.homeless(), 1);
+        Works.dueThrow("read", IllegalArgumentException.class, x::read);
+        Works.due("homeless()", x.homeless(), -1);
+    }
+
+    /** Reads a program and does many things with it: all answers, one behind the other. */
+    private static String answers(PacketWorks x, String text) {
+        StringBuilder s = new StringBuilder();
+        Works.put(x, text);
+        s.append(told(x::read)).append(x.fault(0)).append(' ').append(x.fault(1));
+        s.append(told(() -> x.lay(2, 10000, 1000))).append(x.homeless()).append(told(() -> x.lay(12, 10000, 1000)));
+        for (int i = 0; i < 10; i++) {
+            s.append(' ').append(x.size(i)).append(' ').append(x.step(i, 1)).append(' ').append(x.stage(i, 0));
+        }
+        for (int i = 0; i < 12; i++) {
+            int n = i;
+            x.key(0, i % 5, -1);
+            x.key(1, i % 2, -1);
+            x.datum(0, i);
+            x.datum(1, i * i);
+            s.append(told(() -> x.entry(n % 7 == 6 ? 2 : 0, n % 3 == 0 ? 1 : 0, n, n % 2)));
+            Works.put(x, Works.bytes(i % 4, i % 3, 3, 4));
+            s.append(told(() -> x.packet(n)));
+        }
+        s.append(told(() -> x.run(30)));
+        x.end(3);
+        s.append(told(() -> x.packet(0))).append(told(() -> x.run(30)));
+        for (int i = 0; i < 26; i++) {
+            for (int k = 0; k < 8; k++) {
+                s.append(' ').append(x.out(i, k)).append(' ').append(x.byteAt(i, k)).append(' ').append(x.did(i, k));
+            }
+        }
+        for (int i = 0; i < 6; i++) {
+            s.append(' ').append(x.count(i)).append(' ').append(x.word(0, i)).append(' ').append(x.entries(0, i));
+            s.append(' ').append(x.entries(1, i));
+        }
+        told(x::read);
+        return s.toString();
+    }
+
+    private interface Call {
+        int answer();
+    }
+
+    private static String told(Call call) {
+        try {
+            return " " + call.answer() + " ";
+        } catch (RuntimeException e) {
+            return " " + e.getClass().getSimpleName() + " ";
+        }
+    }
+}
