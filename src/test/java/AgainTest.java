@@ -6,14 +6,17 @@ public final class AgainTest {
             + " state s { extract x; select x.a { 1 : t; 2 & 3 : u; default : accept; } } state t { extract y; goto u; }"
             + " state u { goto accept; } action f (p : 8, q : 16) { m = p; out_port = q; load x.b r [m]; store r [m] x.a; }"
             + " action g () { drop; } table t1 { key x.a : exact; key valid y : exact; actions f, g; default g ();"
-            + " room 2 ways 1 stash 2; } table t2 { key x.b : prefix; actions f; default f (3, 9); room 3; }"
+            + " room 2 ways 1 stash 2; } action k (p : 8) { m = p; } table t2 { key x.b : prefix; actions k; default k (3);"
+            + " room 3; }"
             + " control { if valid y { apply t1; } else { apply t2; if m == 3 { add y; y.a = m; } } } emit y, x;",
         "header h { abcdefghijk : 16; } header g { a : 64; } use p : h; meta q : 64; array s : 64 [2];"
-            + " state only { extract p; goto accept; } action f () { store s [1] q; } action g (p : 1) { drop; }"
+            + " state only { extract p; goto accept; } action f () { store s [1] q; } action gg (p : 1) { drop; }"
             + " table t { key p.abcdefghijk : masked; actions f; default f (); room 2; }"
             + " control { q = p.abcdefghijk as 64; apply t; if q > 0x100 { take p; } } emit p;",
-        "header h { a : 8; } use x : h; state a { select length { 3 : b; 4 : c; default : reject; } }"
+        "header h { a : 8; } use x : h; state a { select length { 0 : reject; 3 : b; 4 : c; default : reject; } }"
             + " state b { extract x; goto c; } state c { goto accept; } control { out_port = x.a as 16 + 1; drop; } emit x;",
+        "header h { a : 8; } use x : h; array r : 8 [4]; array s : 8 [4]; meta m : 8; state z { extract x; goto accept; }"
+            + " control { store r [x.a] x.a; m = 1; if m == 1 { store s [2] 5; } } emit x;",
         "header h { a : 8 } use",
         "header h { a : 8; } use x : h; meta q : 64; control { q = q + q + q + q"
     };
@@ -28,8 +31,24 @@ public final class AgainTest {
                 Works.due("program " + now + " behind " + before, got.equals(want) ? 1 : 0, 1);
             }
         }
+        allAreLaid();
         homelessIsForgotten();
+        manyReads();
         Works.done();
+    }
+
+    private static void allAreLaid() {
+        for (int i = 0; i < 5; i++) {
+            Works.due("program " + i + " can be laid", Works.laid(PROGRAMS[i]).count(5) > 0 ? 1 : 0, 1);
+        }
+    }
+
+    private static void manyReads() {
+        PacketWorks x = new PacketWorks();
+        for (int i = 0; i < 60; i++) {
+            Works.put(x, "header h{a:8;}use x:h;action f(){" + Works.times(12, "drop;") + "}control{drop;}emit x;");
+            Works.due("read", x.read(), 0);
+        }
     }
 
     private static void homelessIsForgotten() {
