@@ -1263,8 +1263,8 @@ public final class PacketWorks {
             }
             for (int g = from; g < most; g++) {
                 boolean may = only == NONE || only == g;
-                boolean room = stageSteps[g] < STAGE_STEPS && stageMemory[g] <= memoryLeft && stageWires[g] <= wiresLeft;
-                if (may && room) {
+                boolean room = stageMemory[g] <= memoryLeft && stageWires[g] <= wiresLeft;
+                if (may && room && stageSteps[g] < STAGE_STEPS) {
                     return g;
                 }
             }
@@ -1444,8 +1444,9 @@ public final class PacketWorks {
             } else if (text.word == NAME) {
                 int parameter = program.actions.parameterOf(action, text.high, text.low);
                 if (parameter != NONE) {
+                    int width = program.actions.parameterWidth[action * PARAMETERS + parameter];
                     text.advance();
-                    add(PARAMETER, parameter, 0, program.actions.parameterWidth[action * PARAMETERS + parameter], place);
+                    add(PARAMETER, parameter, 0, width, place);
                 } else {
                     int slot = placeSlot();
                     add(SLOT, slot, 0, program.slotWidth(slot), place);
