@@ -4,15 +4,28 @@ import java.nio.charset.StandardCharsets;
 final class Works {
     private static int looked;
     private static int wrong;
+    private static String sentence = "";
 
     private Works() {
+    }
+
+    /** The sentence of the document that what follows holds against the class; it is told with each wrong answer. */
+    static void sentence(String words) {
+        sentence = "[" + words + "] ";
+    }
+
+    /** Long texts are told without their middle. */
+    private static void tell(String words) {
+        wrong++;
+        int length = words.length();
+        String told = length < 700 ? words : words.substring(0, 300) + " .. " + words.substring(length - 300);
+        System.out.println(sentence + told);
     }
 
     static void due(String call, long got, long want) {
         looked++;
         if (got != want) {
-            wrong++;
-            System.out.println(call + " answered " + got + ", due is " + want);
+            tell(call + " answered " + got + ", due is " + want);
         }
     }
 
@@ -22,13 +35,39 @@ final class Works {
             what.run();
         } catch (RuntimeException e) {
             if (e.getClass() != want) {
-                wrong++;
-                System.out.println(call + " threw " + e + ", due is " + want.getSimpleName());
+                tell(call + " threw " + e + ", due is " + want.getSimpleName());
             }
             return;
         }
-        wrong++;
-        System.out.println(call + " threw nothing, due is " + want.getSimpleName());
+        tell(call + " threw nothing, due is " + want.getSimpleName());
+    }
+
+    /** A text in which @ tells the place of its fault. */
+    static void fault(int kind, String marked) {
+        PacketWorks x = new PacketWorks();
+        int place = marked.indexOf('@');
+        put(x, marked.replace("@", ""));
+        dueThrow("read() of " + marked, IllegalArgumentException.class, x::read);
+        due("fault(0) of " + marked, x.fault(0), kind);
+        due("fault(1) of " + marked, x.fault(1), place);
+        due("size(0) of " + marked, x.size(0), -1);
+    }
+
+    /** A text without a fault: how many nodes it has. */
+    static int fine(String text) {
+        PacketWorks x = new PacketWorks();
+        put(x, text);
+        looked++;
+        int nodes = -1;
+        try {
+            nodes = x.read();
+        } catch (IllegalArgumentException e) {
+            tell("read() of " + text + " has the fault " + x.fault(0) + " at " + x.fault(1) + ", due is none");
+            return nodes;
+        }
+        due("fault(0) of " + text, x.fault(0), 0);
+        due("fault(1) of " + text, x.fault(1), -1);
+        return nodes;
     }
 
     /** Puts bytes on the tape: how many end() told at last. */
@@ -91,8 +130,7 @@ final class Works {
         looked++;
         String got = sent(x, operation);
         if (!got.equals(want)) {
-            wrong++;
-            System.out.println(call + ": bytes " + got + ", due are " + want);
+            tell(call + ": bytes " + got + ", due are " + want);
         }
     }
 

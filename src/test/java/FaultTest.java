@@ -19,15 +19,8 @@ public final class FaultTest {
         Works.done();
     }
 
-    /** A text in which @ tells the place of the fault. */
     private static void fault(int kind, String marked) {
-        PacketWorks x = new PacketWorks();
-        int place = marked.indexOf('@');
-        Works.put(x, marked.replace("@", ""));
-        Works.dueThrow("read() of " + marked, IllegalArgumentException.class, x::read);
-        Works.due("fault(0) of " + marked, x.fault(0), kind);
-        Works.due("fault(1) of " + marked, x.fault(1), place);
-        Works.due("size(0) of " + marked, x.size(0), -1);
+        Works.fault(kind, marked);
     }
 
     private static void inControl(int kind, String block) {
