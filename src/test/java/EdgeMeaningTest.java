@@ -180,7 +180,7 @@ public final class EdgeMeaningTest {
         Works.sentence("MEANING: PACKETS: all instances are not valid, metas 0, each time");
         PacketWorks x = Works.laid(HEAD + "state s { select length { 1 : accept; default : g; } } state g { extract x;"
                 + " goto accept; } control { out_port = m as 16; m = x.a; if valid x { drop; } } emit x;");
-        for (int i = 0; i < 140; i++) {
+        for (int i = 0; i < 60; i++) {
             int n = i % 2 == 0 ? Works.send(x, 0, 200, 1, 2) : Works.send(x, 0, 9);
             x.run(3);
             Works.due("out(1) of " + i, x.out(n, 1), i % 2 == 0 ? 1 : 0);
