@@ -25,7 +25,8 @@ public final class AgainTest {
         for (int before = 0; before < PROGRAMS.length; before++) {
             for (int now = 0; now < PROGRAMS.length; now++) {
                 PacketWorks used = new PacketWorks();
-                answers(used, PROGRAMS[before]);
+                stir(used, PROGRAMS[before]);
+                told(used::read);
                 String got = answers(used, PROGRAMS[now]);
                 String want = answers(new PacketWorks(), PROGRAMS[now]);
                 Works.due("program " + now + " behind " + before, got.equals(want) ? 1 : 0, 1);
@@ -45,7 +46,7 @@ public final class AgainTest {
 
     private static void manyReads() {
         PacketWorks x = new PacketWorks();
-        for (int i = 0; i < 60; i++) {
+        for (int i = 0; i < 30; i++) {
             Works.put(x, "header h{a:8;}use x:h;action f(){" + Works.times(12, "drop;") + "}control{drop;}emit x;");
             Works.due("read", x.read(), 0);
         }
@@ -59,16 +60,13 @@ public final class AgainTest {
         Works.due("homeless()", x.homeless(), -1);
     }
 
-    /** Reads a program and does many things with it: all answers, one behind the other. */
-    private static String answers(PacketWorks x, String text) {
+    /** Reads a program and does many things with it: what they answer. */
+    private static String stir(PacketWorks x, String text) {
         StringBuilder s = new StringBuilder();
         Works.put(x, text);
         s.append(told(x::read)).append(x.fault(0)).append(' ').append(x.fault(1));
         s.append(told(() -> x.lay(2, 10000, 1000))).append(x.homeless()).append(told(() -> x.lay(12, 10000, 1000)));
         for (int i = 0; i < 10; i++) {
-            s.append(' ').append(x.size(i)).append(' ').append(x.step(i, 1)).append(' ').append(x.stage(i, 0));
-        }
-        for (int i = 0; i < 12; i++) {
             int n = i;
             x.key(0, i % 5, -1);
             x.key(1, i % 2, -1);
@@ -80,17 +78,23 @@ public final class AgainTest {
         }
         s.append(told(() -> x.run(30)));
         x.end(3);
-        s.append(told(() -> x.packet(0))).append(told(() -> x.run(30)));
-        for (int i = 0; i < 26; i++) {
-            for (int k = 0; k < 8; k++) {
-                s.append(' ').append(x.out(i, k)).append(' ').append(x.byteAt(i, k)).append(' ').append(x.did(i, k));
-            }
+        return s.append(told(() -> x.packet(0))).append(told(() -> x.run(5))).toString();
+    }
+
+    /** As stir(), and what can be told of it all. An object has 512 calls, so that not all is asked of each operation. */
+    private static String answers(PacketWorks x, String text) {
+        StringBuilder s = new StringBuilder(stir(x, text));
+        s.append(told(() -> x.run(30)));
+        for (int i = 0; i < 10; i++) {
+            s.append(' ').append(x.size(i)).append(' ').append(x.step(i, 1)).append(' ').append(x.stage(i, 0));
         }
-        for (int i = 0; i < 6; i++) {
-            s.append(' ').append(x.count(i)).append(' ').append(x.word(0, i)).append(' ').append(x.entries(0, i));
-            s.append(' ').append(x.entries(1, i));
+        for (int i = 0; i < 22; i++) {
+            s.append(' ').append(x.out(i, i % 2 + 1)).append(' ').append(x.out(i, 4));
+            s.append(' ').append(x.byteAt(i, i % 3)).append(' ').append(x.did(i, i % 4));
         }
-        told(x::read);
+        for (int i = 0; i < 4; i++) {
+            s.append(' ').append(x.count(i)).append(' ').append(x.word(0, i)).append(' ').append(x.entries(i % 2, i / 2));
+        }
         return s.toString();
     }
 

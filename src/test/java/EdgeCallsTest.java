@@ -34,6 +34,7 @@ public final class EdgeCallsTest {
         words();
         entries();
         counts();
+        behindTheMost();
         Works.done();
     }
 
@@ -219,6 +220,8 @@ public final class EdgeCallsTest {
         Works.dueThrow("it is LAID, no such stages", IllegalStateException.class, () -> x.lay(13, 0, 0));
         Works.dueThrow("it is LAID", IllegalStateException.class, () -> x.lay(12, 10000, 10000));
         Works.due("it is as it was", x.count(5), 3);
+        PacketWorks one = Works.laid("header h { a : 8; } use x : h; control { } emit x;");
+        Works.dueThrow("one stage is LAID", IllegalStateException.class, () -> one.lay(1, 0, 0));
     }
 
     private static void homelessSince() {
@@ -608,5 +611,32 @@ public final class EdgeCallsTest {
         }
         Works.dueThrow("read()", IllegalArgumentException.class, x::read);
         Works.due("count(5) without a program", x.count(5), 0);
+    }
+
+    private static void behindTheMost() {
+        Works.sentence("9, 10, 18 to 20: NONE or 0 behind the last of as many as there may be");
+        PacketWorks x = Works.with("header h{a:8;}use x:h;meta m:8;" + Works.times(8, "array r#:8[64];") + "action a(){}"
+                + Works.times(8, "table t#{key m:exact;actions a;default a();room 1 ways 1 stash 0;}")
+                + "control{" + Works.times(11, "m=m+1;") + "store r7[63]m;store r0[0]1;" + Works.times(35, "if 1{}")
+                + "}emit x;");
+        Works.due("lay()", x.lay(12, 0, 0), 12);
+        Works.due("step(47, 0)", x.step(47, 0), 1);
+        Works.due("step(48, 0)", x.step(48, 0), -1);
+        Works.due("step(48, 1)", x.step(48, 1), -1);
+        Works.due("stage(11, 0)", x.stage(11, 0) > 0 ? 1 : 0, 1);
+        Works.due("stage(12, 0)", x.stage(12, 0), -1);
+        x.packet(0);
+        x.run(20);
+        Works.due("did(0, 47)", x.did(0, 47), 1);
+        Works.due("did(0, 48)", x.did(0, 48), -1);
+        Works.due("word(7, 63)", x.word(7, 63), 11);
+        Works.due("word(7, 64)", x.word(7, 64), 0);
+        Works.due("word(8, 0)", x.word(8, 0), 0);
+        Works.due("word(6, 64)", x.word(6, 64), 0);
+        Works.due("word(-1, 64)", x.word(-1, 64), 0);
+        Works.due("entries(7, 0)", x.entries(7, 0), 0);
+        Works.due("entries(8, 0)", x.entries(8, 0), -1);
+        Works.dueThrow("entry() of the ninth table", IndexOutOfBoundsException.class, () -> x.entry(0, 8, 0, 0));
+        Works.due("entry() of the eighth", x.entry(0, 7, 0, 0), 1);
     }
 }

@@ -7,6 +7,7 @@ public final class EdgeExprTest {
         behindColons();
         behindSigns();
         mixed();
+        allSignsInEach();
         depthComesBack();
         nodesAtMost();
         theNodeTooMany();
@@ -89,6 +90,18 @@ public final class EdgeExprTest {
         fault(4, "m = (" + "~(".repeat(11) + "@~m" + close(12) + ";");
         fault(4, "m = " + "(o ? m : ~".repeat(7) + "(((@m" + close(10) + ";");
         fine(29, "m = " + "(o ? m : ~".repeat(7) + "((m" + close(9) + ";");
+    }
+
+    private static void allSignsInEach() {
+        Works.sentence("PROGRAM: 24 EXPRs in one another, in each all signs");
+        String head = HEAD + "meta t : 2; control { o = ";
+        String each = "o ? o || o && o == o | o ^ o & o << t + o ++ (";
+        String end = "o" + ") : o".repeat(23) + "; } emit x;";
+        Works.due("23 brackets", Works.fine(head + each.repeat(23) + end), 23 * 21 + 1);
+        Works.fault(4, head + each.repeat(24) + "@" + end);
+        String last = each.substring(4, each.length() - 1);
+        Works.due("all signs in the 24th, too", Works.fine(head + each.repeat(23) + last + end), 23 * 21 + 19);
+        Works.fault(4, head + each.repeat(23) + "o ? " + last + "o : @o" + ") : o".repeat(23) + "; } emit x;");
     }
 
     private static void depthComesBack() {

@@ -178,14 +178,22 @@ public final class EdgeMeaningTest {
 
     private static void metasAreAnew() {
         Works.sentence("MEANING: PACKETS: all instances are not valid, metas 0, each time");
-        PacketWorks x = Works.laid(HEAD + "state s { select length { 1 : accept; default : g; } } state g { extract x;"
-                + " goto accept; } control { out_port = m as 16; m = x.a; if valid x { drop; } } emit x;");
-        for (int i = 0; i < 60; i++) {
-            int n = i % 2 == 0 ? Works.send(x, 0, 200, 1, 2) : Works.send(x, 0, 9);
-            x.run(3);
-            Works.due("out(1) of " + i, x.out(n, 1), i % 2 == 0 ? 1 : 0);
-            Works.due("out_port of " + i, x.out(n, 2), i % 2 == 0 ? -1 : 0);
+        PacketWorks x = Works.laid("header h { a : 8; } use x : h; meta k : 16; control { out_port = k; k = in_port + 1;"
+                + " if valid x { out_port = 7; } if x.a != 0 { out_port = 8; } add x; x.a = 255; if in_port == 1 { drop; } }"
+                + " emit x;");
+        for (int round = 0; round < 8; round++) {
+            for (int i = 0; i < 36; i++) {
+                x.packet((i + round) % 3);
+            }
+            x.run(50);
+            for (int i = 30; i < 36; i++) {
+                int n = round * 36 + i;
+                boolean drops = (i + round) % 3 == 1;
+                Works.due("out(" + n + ", 1)", x.out(n, 1), drops ? 1 : 0);
+                Works.due("out(" + n + ", 2)", x.out(n, 2), drops ? -1 : 0);
+            }
         }
+        Works.due("all went OUT", x.count(3), 288);
     }
 
     private static void theFirstState() {

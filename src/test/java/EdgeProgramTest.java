@@ -23,6 +23,7 @@ public final class EdgeProgramTest {
         blocks();
         whatIsEmitted();
         places();
+        allAtOnce();
         Works.done();
     }
 
@@ -203,7 +204,7 @@ public final class EdgeProgramTest {
         fault(1, HEAD + "action f (p : 1, @) { }");
         Works.sentence("PROGRAM: 12 statements in an action");
         fine(HEAD + "action f () { " + times(12, "drop; ") + "}" + END);
-        fine(HEAD + times(16, "action f# () { " + times(12, "drop;") + "} ") + "control { drop; } emit x;");
+        fine(HEAD + times(16, "action f# () {" + times(12, "drop;") + "}") + "control {" + times(48, "drop;") + "} emit x;");
         fault(4, HEAD + "action f () { " + times(12, "drop; ") + "@drop; }");
         fault(4, HEAD + "action f () { " + times(12, "drop; ") + "@add x; }");
         fault(4, HEAD + "action f () { " + times(12, "drop; ") + "@m = 1; }");
@@ -343,5 +344,31 @@ public final class EdgeProgramTest {
         fine(HEAD + "action f (m : 4, x : 1) { m = 255; x.a = 255; }" + END);
         fault(6, HEAD + "action f (p : 8) { @p = 1; }");
         fault(6, HEAD + "action f (p : 8) { load @p r [0]; }");
+    }
+
+    private static void allAtOnce() {
+        Works.sentence("PROGRAM: all that there may be, at once, each known by its name");
+        String metas = times(13, "meta m#:8;");
+        String headers = times(12, "header h#{a:8;}") + times(12, "use x#:h#;");
+        String arrays = times(8, "array r#:8[1];");
+        String actions = times(16, "action a#(){drop;}");
+        String states = times(15, "state s#{goto accept;}") + "state s15{goto s14;}";
+        String table = "{key m12:exact;actions a15;default a14();room 1 ways 1 stash 0;}";
+        String[] orders = {headers + metas + arrays + actions + states, states + metas + arrays + headers + actions,
+            actions + states + headers + metas + arrays};
+        for (String order : orders) {
+            String all = order + times(8, "table t#" + table) + "control{apply t7;";
+            fine(all + "apply t0;add x11;m12=m0;load m0 r7[0];}emit x11,x0;");
+            fault(8, all + "apply @t7;}emit x11;");
+            fault(4, order + times(8, "table t#" + table) + "table @t7" + table);
+            fault(6, all + "add @h11;}");
+            fault(6, all + "m0=@a15;}");
+            fault(6, all + "m0=@s15;}");
+            fault(6, all + "m0=@t7;}");
+            fault(6, all + "m0=@r7;}");
+        }
+        for (String name : new String[] {"h11", "x11", "m12", "r7", "a15", "s15"}) {
+            fault(3, orders[0] + "table @" + name + table);
+        }
     }
 }

@@ -6,6 +6,7 @@ public final class EdgeWordsTest {
 
     public static void main(String[] args) {
         names();
+        namesThatDiffer();
         keywordsAreNoNames();
         decimals();
         hexes();
@@ -14,6 +15,7 @@ public final class EdgeWordsTest {
         signs();
         spaces();
         otherBytes();
+        theEndOfTheText();
         Works.done();
     }
 
@@ -47,6 +49,69 @@ public final class EdgeWordsTest {
         Works.fault(2, "meta @" + "a".repeat(300) + " : 8;");
         Works.fault(2, "@headerheaderheader");
         Works.fault(2, "meta m : 8; control { @mmmmmmmmmmmmmmmmm");
+    }
+
+    /** Names as metas of different widths, as fields and as parameters: each is known from the others. */
+    private static void known(String[] names) {
+        StringBuilder metas = new StringBuilder();
+        StringBuilder fields = new StringBuilder();
+        StringBuilder puts = new StringBuilder();
+        for (int i = 0; i < names.length; i++) {
+            metas.append("meta ").append(names[i]).append(':').append(i + 1).append(';');
+            fields.append(names[i]).append(':').append(i + 1).append(';');
+            puts.append(names[i]).append('=').append((1 << i + 1) - 1).append(";z.");
+            puts.append(names[i]).append('=').append((1 << i + 1) - 1).append(';');
+        }
+        int bits = names.length * (names.length + 1) / 2;
+        String header = "header y{" + fields + "y:" + (64 - bits % 8) + ";}use z:y;";
+        Works.fine(header + metas + "control{" + puts + "}emit z;");
+        for (int i = 0; i < names.length; i++) {
+            Works.fault(3, metas + "meta @" + names[i] + ":1;");
+            Works.fault(3, "header y{" + fields + "@" + names[i] + ":1;}");
+        }
+        for (int i = 0; i + 3 < names.length; i++) {
+            Works.fine(header + "array w:1[1];array v:2[1];action a(" + names[i] + ":1," + names[i + 1] + ":2,"
+                    + names[i + 2] + ":1," + names[i + 3] + ":2){store w[0]" + names[i] + ";store v[0]" + names[i + 1]
+                    + ";store w[0]" + names[i + 2] + ";store v[0]" + names[i + 3] + ";}control{}emit z;");
+        }
+    }
+
+    private static void namesThatDiffer() {
+        Works.sentence("WORDS: names that differ in one place, or in their lengths, are different names");
+        for (int at = 0; at < 16; at++) {
+            String[] others = at == 0 ? new String[] {"a", "b", "c", "q", "k"} : new String[] {"a", "b", "c", "1", "_", "q"};
+            String[] names = new String[others.length];
+            for (int i = 0; i < others.length; i++) {
+                names[i] = "abcdefghijklmnop".substring(0, at) + others[i] + "bcdefghijklmnopa".substring(at, 15);
+            }
+            known(names);
+            for (int i = 0; i < others.length; i++) {
+                names[i] = "abcdefghijklmnop".substring(0, at) + others[i];
+            }
+            known(names);
+        }
+        String[] lengths = new String[12];
+        for (int from = 1; from <= 5; from++) {
+            for (int i = 0; i < lengths.length; i++) {
+                lengths[i] = "c".repeat(from + i);
+            }
+            known(lengths);
+        }
+        known(new String[] {"a1234567b", "c1234567b", "b1234567a", "a1234567a", "c1234567a", "b1234567b"});
+        known(new String[] {"a12345678", "a12345679", "a1234567", "a123456789", "a12345678_", "a12345679_"});
+        long seed = 1;
+        for (int round = 0; round < 60; round++) {
+            String[] names = new String[6];
+            for (int i = 0; i < names.length; i++) {
+                StringBuilder name = new StringBuilder("n");
+                for (int k = 1; k < 16; k++) {
+                    seed = seed * 6364136223846793005L + 1442695040888963407L;
+                    name.append("abc_1".charAt((int) (seed >>> 40) % 5));
+                }
+                names[i] = name.toString();
+            }
+            known(names);
+        }
     }
 
     private static void keywordsAreNoNames() {
@@ -130,6 +195,20 @@ public final class EdgeWordsTest {
         inControl(1, "m = m ++@+ m; }");
         inControl(1, "m = m ^@^ m; }");
         inControl(1, "o @== o; }");
+        for (String sign : new String[] {"+", "++", "-", "&", "&&", "|", "||", "^", "~", "("}) {
+            inControl(1, "o = o " + (sign.equals("~") || sign.equals("(") ? "+ " : "") + sign + "@= o; }");
+        }
+        inControl(1, "o = o ?@= o : o; }");
+        inControl(1, "o = o ? o :@= o; }");
+        inControl(1, "o = q[@= ; }");
+        inControl(1, "o = x.@= ; }");
+        inControl(1, "o = o;@= ; }");
+        inControl(1, "@= o; }");
+        inControl(1, "o = (o)@= ; }");
+        inControl(1, "q = q[63:0]@= ; }");
+        Works.fault(1, HEAD + "control {@=");
+        Works.fault(1, HEAD + "control { }@=");
+        Works.fault(1, HEAD + "control { } emit x,@=");
         inControl(1, "m = 12@ab; }");
         control("m=5as 8;");
         inControl(1, "m = 0x5a@s; }");
@@ -186,6 +265,38 @@ public final class EdgeWordsTest {
             Works.dueThrow("read()", IllegalArgumentException.class, x::read);
             Works.due("fault(0) of byte " + c, x.fault(0), letter || digit || space || sign ? 1 : 2);
             Works.due("fault(1) of byte " + c, x.fault(1), letter || space ? 6 : 5);
+        }
+    }
+
+    /** The fault of a text that comes behind another one, which fills the tape with some bytes. */
+    private static void behind(String filling, int kind, String marked) {
+        PacketWorks x = new PacketWorks();
+        Works.put(x, filling.repeat(400 / filling.length()));
+        Works.dueThrow("read() of " + filling, IllegalArgumentException.class, x::read);
+        Works.put(x, marked.replace("@", ""));
+        Works.dueThrow("read() of " + marked, IllegalArgumentException.class, x::read);
+        Works.due("fault(0) of " + marked + " behind " + filling, x.fault(0), kind);
+        Works.due("fault(1) of " + marked + " behind " + filling, x.fault(1), marked.indexOf('@'));
+    }
+
+    private static void theEndOfTheText() {
+        Works.sentence("WORDS: a word ends with the text, whatever the tape had before");
+        for (String filling : new String[] {"x", "0", "=", "a", "<", ">", "&", "|", "+", " ", "f", ";"}) {
+            behind(filling, 5, "meta m : @0");
+            behind(filling, 1, "meta m : 8@");
+            behind(filling, 1, "meta m : 0x8@");
+            behind(filling, 1, "meta m : 8; header@");
+            behind(filling, 1, "meta abcdefghijklmnop@");
+            behind(filling, 1, "meta m : 8; array r : 8 [64@");
+            behind(filling, 2, "meta m : @0x");
+            for (String sign : new String[] {"=", "==", "!=", "<", "<=", ">", ">=", "+", "++", "-", "&", "&&", "|", "||",
+                "^", "<<", ">>"}) {
+                String put = sign.equals("=") ? "" : "o = o ";
+                behind(filling, 1, "meta o : 1; control { " + put + (put.isEmpty() ? "o " : "") + sign + "@");
+            }
+            behind(filling, 1, "meta o : 1; control { o = !@");
+            behind(filling, 1, "meta o : 1; control { o = ~@");
+            behind(filling, 1, "meta o : 1; control { o = -@");
         }
     }
 }

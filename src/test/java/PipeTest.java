@@ -169,17 +169,21 @@ public final class PipeTest {
 
     private static void theLatest64() {
         PacketWorks x = Works.laid(HEAD + "state s { extract x; goto accept; } control { out_port = x.a as 16; } emit x;");
-        for (int i = 0; i < 150; i++) {
+        for (int i = 0; i < 99; i++) {
             Works.due("packet", Works.send(x, 0, i), i);
-            if (i % 30 == 29) {
-                x.run(31);
-                for (int n = 0; n <= i; n++) {
-                    int want = n > i - 64 ? n : -1;
-                    Works.due("out(" + n + ", 2) behind " + i, x.out(n, 2), want);
-                    Works.due("byteAt(" + n + ", 0)", x.byteAt(n, 0), want);
-                    Works.due("did(" + n + ", 0)", x.did(n, 0), want == -1 ? -1 : 0);
-                }
+            if (i % 33 == 32) {
+                x.run(34);
             }
+        }
+        for (int n = 33; n < 38; n++) {
+            int want = n > 98 - 64 ? n : -1;
+            Works.due("out(" + n + ", 2)", x.out(n, 2), want);
+            Works.due("byteAt(" + n + ", 0)", x.byteAt(n, 0), want);
+            Works.due("did(" + n + ", 0)", x.did(n, 0), want == -1 ? -1 : 0);
+        }
+        for (int n = 38; n < 99; n += 4) {
+            Works.due("out(" + n + ", 2)", x.out(n, 2), n);
+            Works.due("byteAt(" + n + ", 0)", x.byteAt(n, 0), n);
         }
     }
 
@@ -188,7 +192,7 @@ public final class PipeTest {
         PacketWorks x = Works.laid(HEAD + "action no () { } table t { key m : exact; actions no; default no ();"
                 + " room 1 ways 1 stash 0; } table u { key m : exact; actions no; default no (); room 16 ways 4 stash 8; }"
                 + " control { apply u; } emit x;");
-        for (int i = 0; i < 400; i++) {
+        for (int i = 0; i < 50; i++) {
             boolean packet = i % 7 < 3;
             x.key(0, i, -1);
             int n = packet ? Works.send(x, 0, i) : x.entry(0, i % 2, 0, 0);
@@ -199,7 +203,7 @@ public final class PipeTest {
             Works.due("did(" + n + ", 0)", x.did(n, 0), packet ? 0 : -1);
         }
         Works.due("entries(0, 0)", x.entries(0, 0), 1);
-        Works.due("entries of the other table", x.entries(1, 0) > 20 ? 1 : 0, 1);
+        Works.due("entries of the other table", x.entries(1, 0), 14);
     }
 
     private static void entriesOnTheWay() {
