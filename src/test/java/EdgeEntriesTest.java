@@ -398,6 +398,14 @@ public final class EdgeEntriesTest {
         Works.due("above", x.entries(0, 1), 8);
         Works.due("one more", come(x, 72, -1, 0, 1), 1);
         Works.due("the last one matches", port(x, 71, 0), 71);
+        x.key(0, 3, -1);
+        Works.due("one goes", entry(x, GO, 0, 0), 0);
+        Works.due("it is gone", port(x, 3, 0), NOT_MATCHED);
+        Works.due("the last one is not", port(x, 71, 0), 71);
+        Works.due("one more comes where one above its ways has gone", come(x, 200, -1, 0, 5), 0);
+        x.key(0, 71, -1);
+        Works.due("the last one goes", entry(x, GO, 0, 0), 0);
+        Works.due("it is gone", port(x, 71, 0), NOT_MATCHED);
     }
 
     private static void whatIsAbove() {

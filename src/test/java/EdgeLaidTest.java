@@ -25,6 +25,7 @@ public final class EdgeLaidTest {
         theFirstStageThatFits();
         asManyStagesAsAsked();
         stepsWithoutAStage();
+        allPlaces();
         Works.done();
     }
 
@@ -247,6 +248,20 @@ public final class EdgeLaidTest {
         Works.due("the first is the greatest", memory(SOME, "key o : exact;", "c, d, a", "1 ways 1 stash 0"), 9 + 24);
         Works.due("the last is the greatest", memory(SOME, "key o : exact;", "a, b, d", "1 ways 1 stash 0"), 9 + 20);
         Works.due("default's do not count", memory(SOME, "key o : exact;", "b, a", "1 ways 1 stash 0"), 10);
+        String four = "action a (p : 1, k : 2, l : 3, u : 4) { } action b (p : 64, k : 64, l : 64, u : 64) { }"
+                + " action z (p : 1, k : 2, l : 3, u : 4) { } ";
+        Works.due("those of another do not count", memory(four, "key o : exact;", "a", "1 ways 1 stash 0"), 9 + 10);
+        Works.due("those of another do not count", memory(four, "key o : exact;", "z", "1 ways 1 stash 0"), 9 + 10);
+        Works.due("all four do", memory(four, "key o : exact;", "a, b", "1 ways 1 stash 0"), 9 + 256);
+        String sixteen = Works.times(15, "action a# (p : 64) { } ") + "action z (p : 8, k : 8, l : 8, u : 7) { } ";
+        Works.due("the sixteenth", memory(sixteen, "key o : exact;", "z", "1 ways 1 stash 0"), 9 + 31);
+        PacketWorks again = Works.laid(HEAD + SOME + "table t { key q : exact; actions c, z; default a (); room 4 ways 4 stash 4; }"
+                + " control { apply t; } emit x;");
+        Works.put(again, HEAD + "action a (p : 2) { } table t { key o : exact; actions a; default a (1); room 1 ways 1 stash 0; }"
+                + " control { apply t; } emit x;");
+        again.read();
+        again.lay(1, MUCH, MUCH);
+        Works.due("those of a program before do not count", again.stage(0, 1), 9 + 2);
     }
 
     private static void wires() {
@@ -365,5 +380,41 @@ public final class EdgeLaidTest {
         Works.due("what the refused one used is not there", x.stage(0, 0), 2);
         Works.due("memory", x.stage(0, 1), FIRST + SECOND);
         Works.due("wires", x.stage(0, 2), 16);
+    }
+
+    /** Twelve instances of sixteen fields, all metas: steps that write to different places are in one stage. */
+    private static void allPlaces() {
+        Works.sentence("LAID: fields, validity of instances, metas, each for itself");
+        String head = "header w{" + Works.times(16, "f#:8;") + "}" + Works.times(12, "use k#:w;") + Works.times(13, "meta m#:8;");
+        String[] places = new String[12 * 16 + 13];
+        for (int i = 0; i < places.length; i++) {
+            places[i] = i < 192 ? "k" + i / 16 + ".f" + i % 16 : "m" + (i - 192);
+        }
+        for (int stride = 1; stride <= 32; stride++) {
+            for (int first = 0; first < places.length; first += 8) {
+                StringBuilder block = new StringBuilder();
+                for (int k = 0; k < 8; k++) {
+                    int at = (first + k) * (stride % 5 == 0 || stride % 41 == 0 ? stride + 1 : stride) % places.length;
+                    block.append(places[at]).append("=1;");
+                }
+                PacketWorks x = Works.with(head + "control{" + block + "}emit k0;");
+                Works.due("lay() of " + block, x.lay(12, 0, 0), 1);
+            }
+        }
+        for (int i = 0; i < places.length; i++) {
+            String last = i < 192 ? "take k" + i / 16 + ";" : "m0=" + places[i] + ";";
+            PacketWorks x = Works.with(head + "control{" + places[i] + "=1;" + places[i] + "=2;" + last + "}emit k0;");
+            Works.due("lay() of " + places[i] + " twice, " + last, x.lay(12, 0, 0), 3);
+        }
+        for (int i = 0; i < 12; i++) {
+            String others = "";
+            for (int k = 0; k < 12; k++) {
+                others += k == i || k == (i + 5) % 12 ? "" : k % 2 == 0 ? "add k" + k + ";" : "k" + k + ".f15=1;";
+            }
+            PacketWorks x = Works.with(head + "control{take k" + i + ";" + others + "drop;if valid k" + i + "{}}emit k0;");
+            Works.due("lay() of " + others, x.lay(12, 0, 0), 2);
+            Works.due("the last of eight others", x.step(7, 1), 0);
+            Works.due("drop", x.step(11, 1), 1);
+        }
     }
 }

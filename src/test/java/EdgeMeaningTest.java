@@ -9,6 +9,7 @@ public final class EdgeMeaningTest {
         withoutSign();
         shiftsOfEachWidth();
         partsOfEachWidth();
+        whatBindsNearer();
         fieldsThatAreNotValid();
         lengths();
         ports();
@@ -122,6 +123,92 @@ public final class EdgeMeaningTest {
         Works.due("++", reckon(64, "x.u[62:0] ++ x.v[0:0]", -1, 0), -2);
         Works.due("++", reckon(2, "x.u[0:0] ++ x.v[0:0]", 1, 0), 2);
         Works.due("++", reckon(64, "x.u[31:0] ++ x.v[31:0]", 0x80000001L, 0x7ffffffeL), 0x800000017ffffffeL);
+    }
+
+    private static final String[] SIGNS = {"||", "&&", "==", "!=", "<", "<=", ">", ">=", "|", "^", "&", "<<", ">>", "+", "-"};
+    private static final int[] LEVELS = {1, 2, 3, 3, 3, 3, 3, 3, 4, 5, 6, 7, 7, 8, 8};
+
+    private static long apply(String sign, long a, long b, int width) {
+        boolean inside = b < width;
+        switch (sign) {
+            case "||": case "|": return a | b;
+            case "&&": case "&": return a & b;
+            case "==": return a == b ? 1 : 0;
+            case "!=": return a != b ? 1 : 0;
+            case "<": return a < b ? 1 : 0;
+            case "<=": return a <= b ? 1 : 0;
+            case ">": return a > b ? 1 : 0;
+            case ">=": return a >= b ? 1 : 0;
+            case "^": return a ^ b;
+            case "<<": return (inside ? a << b : 0) & ones(width);
+            case ">>": return inside ? a >> b : 0;
+            case "+": return a + b & ones(width);
+            default: return a - b & ones(width);
+        }
+    }
+
+    /** Two signs with three operands of a width, in a few values: which two belong together. */
+    private static void pair(int first, int second, int width, int[][] values) {
+        String expr = "x.a " + SIGNS[first] + " x.b " + SIGNS[second] + " x.c";
+        boolean compares = LEVELS[first] == 3 || LEVELS[second] == 3;
+        String fields = width == 1 ? "a : 1; b : 1; c : 1; d : 5;" : "a : 8; b : 8; c : 8;";
+        PacketWorks x = Works.laid("header h { " + fields + " } use x : h; array r : " + (compares ? 1 : width) + " [64];"
+                + " state s { extract x; goto accept; } control { store r [in_port] " + expr + "; } emit x;");
+        for (int i = 0; i < values.length; i++) {
+            int[] v = values[i];
+            if (width == 1) {
+                Works.send(x, i, v[0] << 7 | v[1] << 6 | v[2] << 5);
+            } else {
+                Works.send(x, i, v);
+            }
+        }
+        x.run(40);
+        for (int i = 0; i < values.length; i++) {
+            int[] v = values[i];
+            boolean right = LEVELS[second] > LEVELS[first];
+            long want = right ? apply(SIGNS[first], v[0], apply(SIGNS[second], v[1], v[2], width), width)
+                    : apply(SIGNS[second], apply(SIGNS[first], v[0], v[1], width), v[2], width);
+            Works.due(expr + " of " + v[0] + ", " + v[1] + ", " + v[2], x.word(0, i), want);
+        }
+    }
+
+    private static void whatBindsNearer() {
+        Works.sentence("PROGRAM: Then, each of the next with its signs between, from left to right: OR; AND; SAME; BAR; HAT; BOTH;"
+                + " SHIFT; SUM");
+        int[][] bits = new int[8][];
+        for (int i = 0; i < 8; i++) {
+            bits[i] = new int[] {i >> 2, i >> 1 & 1, i & 1};
+        }
+        int[][] bytes = {{0xf0, 0x0f, 4}, {1, 2, 3}, {0xff, 1, 1}, {3, 1, 7}, {0x55, 0xaa, 2}, {200, 100, 255}, {7, 7, 0},
+            {0x81, 3, 5}, {12, 10, 6}, {0, 255, 1}, {16, 4, 2}, {90, 3, 3}};
+        for (int first = 0; first < SIGNS.length; first++) {
+            for (int second = 0; second < SIGNS.length; second++) {
+                boolean bothCompare = LEVELS[first] == 3 && LEVELS[second] == 3;
+                if (!bothCompare) {
+                    pair(first, second, 1, bits);
+                }
+                boolean wide = LEVELS[first] > 3 && LEVELS[second] > 2 || LEVELS[first] > 2 && LEVELS[second] > 3;
+                if (wide && !bothCompare) {
+                    pair(first, second, 8, bytes);
+                }
+            }
+        }
+        Works.sentence("PROGRAM: then JOIN ++ ; UNARY: ~ ! - ; an ATOM with [ ] or as N behind");
+        Works.due("+ ahead of ++", reckon(8, "x.u[7:0] + x.v[3:0] ++ x.v[7:4]", 0x11, 0x5a), 0x11 + 0xa5);
+        Works.due("+ behind ++", reckon(8, "x.v[3:0] ++ x.v[7:4] + x.u[7:0]", 0x11, 0x5a), 0xa5 + 0x11);
+        Works.due("<< behind ++", reckon(8, "x.v[3:0] ++ x.v[7:4] << 1", 0, 0x5a), 0x4a);
+        Works.due("== behind ++", reckon(1, "x.v[3:0] ++ x.v[7:4] == 0xa5", 0, 0x5a), 1);
+        Works.due("++ from left to right", reckon(12, "x.u[3:0] ++ x.u[7:4] ++ x.u[11:8]", 0xabc, 0), 0xcba);
+        Works.due("~ ahead of ++", reckon(8, "~x.u[3:0] ++ x.u[3:0]", 5, 0), 0xa5);
+        Works.due("- ahead of +", reckon(8, "-x.u[7:0] + 1", 5, 0), 0xfc);
+        Works.due("! ahead of ==", reckon(1, "!x.u[0:0] == x.v[0:0]", 0, 0), 0);
+        Works.due("~ ahead of as", reckon(8, "~x.u[0:0] as 8", 1, 0), 0xfe);
+        Works.due("- ahead of [ ]", reckon(4, "-x.u[7:4]", 0x10, 0), 0xf);
+        Works.due("? : behind ||", reckon(8, "x.u[0:0] || x.v[0:0] ? 1 : x.u[7:0]", 0, 1), 1);
+        Works.due("? : of + ", reckon(8, "x.u[0:0] ? 1 : 2 + x.u[7:0]", 0x10, 0), 0x12);
+        Works.due("? : in ? :", reckon(8, "x.u[0:0] ? 1 : x.v[0:0] ? 2 : x.u[7:0]", 2, 1), 2);
+        Works.due("? : in ? :", reckon(8, "x.u[0:0] ? 1 : x.v[0:0] ? 2 : x.u[7:0]", 3, 1), 1);
+        Works.due("? : in ? :", reckon(8, "x.u[0:0] ? 1 : x.v[0:0] ? 2 : x.u[7:0]", 4, 0), 4);
     }
 
     /** A packet of a program, run through. */
