@@ -450,6 +450,18 @@ public final class EdgeMeaningTest {
         Works.due("the last of them", most.byteAt(0, 12 * 64 - 1), 12);
         Works.due("the last of all", most.byteAt(0, 12 * 64 + 127), 200);
         Works.due("none behind it", most.byteAt(0, 12 * 64 + 128), -1);
+        for (int extracted = 0; extracted <= 2; extracted++) {
+            String state = "state s { " + Works.times(extracted, "extract k#; ") + "goto accept; } ";
+            PacketWorks some = Works.laid(big + Works.times(12, "use k# : w; ") + state + "control { " + adds + "} emit "
+                    + names + ";");
+            Works.send(some, 0, payload);
+            some.run(20);
+            int bytes = 12 * 64 + 128 - 64 * extracted;
+            Works.due("twelve, of which " + extracted + " came", some.out(0, 3), bytes);
+            Works.due("the last of them", some.byteAt(0, 12 * 64 - 1), 12);
+            Works.due("the last of all", some.byteAt(0, bytes - 1), extracted == 2 ? 12 : 200);
+            Works.due("none behind it", some.byteAt(0, bytes), -1);
+        }
     }
 
     private static void dropped() {
