@@ -67,15 +67,16 @@ public final class EdgeCallsTest {
         Works.due("fault(0)", x.fault(0), 8);
         Works.dueThrow("read()", IllegalArgumentException.class, x::read);
         Works.due("fault(0) of the latest", x.fault(0), 1);
-        Works.put(x, WHOLE.replace("x.a == 1", "1"));
+        Works.put(x, HEAD + TABLES + "control { apply t; } emit x;");
         x.read();
         x.lay(12, 10000, 10000);
         x.entry(0, 0, 0, 0);
         Works.send(x, 0, 9);
+        Works.send(x, 0, 0);
         x.run(20);
-        Works.due("the key came", x.out(0, 1), 0);
-        Works.due("key() and datum() were those of before", x.did(1, 1), 0);
-        Works.due("its datum", x.entries(0, 0), 1);
+        Works.due("the entry came, with the mask of before", x.out(0, 1), 0);
+        Works.due("it has the value and the datum of before", x.out(1, 2), 321);
+        Works.due("and matches nothing else", x.out(2, 1), 1);
     }
 
     private static void readThatAnswers() {

@@ -205,6 +205,10 @@ public final class EdgeProgramTest {
         Works.sentence("PROGRAM: 12 statements in an action");
         fine(HEAD + "action f () { " + times(12, "drop; ") + "}" + END);
         fine(HEAD + times(16, "action f# () {" + times(12, "drop;") + "}") + "control {" + times(48, "drop;") + "} emit x;");
+        for (String last : new String[] {"m = n1 + 1;", "store r [m + 1] m;", "load m r [m];", "add x;", "take y;", "n1 = 7;"}) {
+            fine(HEAD + "meta n1 : 8; " + times(16, "action f# () {" + times(11, "drop;") + last + "}") + "control {"
+                    + times(47, "drop;") + last + "} emit x;");
+        }
         fault(4, HEAD + "action f () { " + times(12, "drop; ") + "@drop; }");
         fault(4, HEAD + "action f () { " + times(12, "drop; ") + "@add x; }");
         fault(4, HEAD + "action f () { " + times(12, "drop; ") + "@m = 1; }");
