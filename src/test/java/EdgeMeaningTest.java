@@ -18,6 +18,7 @@ public final class EdgeMeaningTest {
         withoutAState();
         extractToTheEnd();
         extractOfOneThatIsValid();
+        theLongestWay();
         rejected();
         select();
         indexes();
@@ -336,6 +337,30 @@ public final class EdgeMeaningTest {
         String instances = Works.times(8, "use k# : e; ");
         String long1 = instances + "state s0 { extract t; goto p0; } state p0 { goto s1; } " + chain();
         Works.due("twelve instances, sixteen states", sent(long1, "", 0, new int[9]).out(0, 1), 0);
+    }
+
+    /** Eight states without an extract are come to nine times each, and between them eight that extract. */
+    private static void theLongestWay() {
+        Works.sentence("MEANING: Reading goes on until accept or reject, however often it comes to a state");
+        StringBuilder states = new StringBuilder();
+        StringBuilder valid = new StringBuilder("valid k0");
+        for (int i = 0; i < 7; i++) {
+            states.append("state p" + i + " { goto p" + (i + 1) + "; } ");
+            valid.append(" ++ valid k" + (i + 1));
+        }
+        states.append("state p7 { select " + valid + " { ");
+        for (int i = 0; i < 8; i++) {
+            states.append((0xff00 >> i & 255) + " : s" + i + "; ");
+        }
+        states.append("default : accept; } } ");
+        for (int i = 0; i < 8; i++) {
+            states.append("state s" + i + " { extract k" + i + "; goto p0; } ");
+        }
+        PacketWorks x = sent(Works.times(8, "use k# : e; ") + states, "out_port = k7.f ++ k7.g ++ k0.f ++ k0.g;", 0,
+                1, 2, 3, 4, 5, 6, 7, 8, 9);
+        Works.due("it is accepted", x.out(0, 1), 0);
+        Works.due("the first and the last that were extracted", x.out(0, 2), 0x801);
+        Works.dueBytes("the PAYLOAD behind them", x, 0, "09");
     }
 
     /** Seven more states that extract, each with one behind that does not. */
