@@ -2401,7 +2401,8 @@ public final class PacketWorks {
     private static final class Pipe {
         final Program program;
         final Operation[] operations = new Operation[OPERATIONS];
-        final int[] inStage = new int[STAGES];
+        /** Null where a stage is empty. */
+        final Operation[] inStage = new Operation[STAGES];
         final long[] words = new long[ARRAYS * ARRAY_WORDS];
         int came;
         int entered;
@@ -2417,8 +2418,10 @@ public final class PacketWorks {
             entered = 0;
             wentOut = 0;
             cycles = 0;
-            Arrays.fill(inStage, NONE);
             Arrays.fill(words, 0);
+            for (int g = 0; g < STAGES; g++) {
+                inStage[g] = null;
+            }
         }
 
         int inLine() {
@@ -2447,22 +2450,24 @@ public final class PacketWorks {
 
         void cycle() {
             int last = program.steps.stages - 1;
-            if (inStage[last] != NONE) {
-                operations[inStage[last] % OPERATIONS].leave(program, cycles);
+            Operation leaving = inStage[last];
+            if (leaving != null) {
+                leaving.leave(program, cycles);
                 wentOut++;
             }
             for (int g = last; g > 0; g--) {
                 inStage[g] = inStage[g - 1];
             }
-            inStage[0] = NONE;
-            if (entered < came) {
-                inStage[0] = entered;
-                operations[entered % OPERATIONS].enter(program);
+            Operation entering = entered < came ? operations[entered % OPERATIONS] : null;
+            inStage[0] = entering;
+            if (entering != null) {
+                entering.enter(program);
                 entered++;
             }
             for (int g = 0; g <= last; g++) {
-                if (inStage[g] != NONE) {
-                    operations[inStage[g] % OPERATIONS].work(program, g, words);
+                Operation there = inStage[g];
+                if (there != null) {
+                    there.work(program, g, words);
                 }
             }
             cycles++;
