@@ -35,6 +35,7 @@ public final class AgainTest {
         allAreLaid();
         homelessIsForgotten();
         manyReads();
+        stagesAreEmpty();
         Works.done();
     }
 
@@ -42,6 +43,25 @@ public final class AgainTest {
         for (int i = 0; i < 5; i++) {
             Works.due("program " + i + " can be laid", Works.laid(PROGRAMS[i]).count(5) > 0 ? 1 : 0, 1);
         }
+    }
+
+    /** Behind read() no operation is left in any of the twelve stages. */
+    private static void stagesAreEmpty() {
+        String text = "header h{a:8;}use x:h;meta m:8;control{" + Works.times(12, "m=m+1;") + "}emit x;";
+        PacketWorks x = Works.laid(text);
+        for (int i = 0; i < 12; i++) {
+            Works.send(x, 0, i);
+        }
+        Works.due("run(12)", x.run(12), 0);
+        Works.due("count(2)", x.count(2), 12);
+        Works.put(x, text);
+        Works.due("read()", x.read(), 36);
+        Works.due("lay(12, 0, 0)", x.lay(12, 0, 0), 12);
+        Works.due("count(2)", x.count(2), 0);
+        Works.send(x, 0, 1);
+        Works.due("run(12)", x.run(12), 0);
+        Works.due("run(1)", x.run(1), 1);
+        Works.due("out(0, 4)", x.out(0, 4), 12);
     }
 
     private static void manyReads() {
